@@ -27,11 +27,13 @@ public final class SpanningTreeProtocol {
     private final Network[] saved;
 
     public SpanningTreeProtocol() {
-        network = new Network();
-        election = new Election(network);
-        ticker = new Ticker(network, election);
-        frame = new Frame(network);
-        topology = new Topology(network);
+        Network net = new Network();
+        Election roles = new Election(net);
+        network = net;
+        election = roles;
+        ticker = new Ticker(net, roles);
+        frame = new Frame(net);
+        topology = new Topology(net);
         saved = new Network[SLOTS];
     }
 

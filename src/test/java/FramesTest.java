@@ -112,6 +112,8 @@ public final class FramesTest {
         CHECK.due("p24 on the other segment", y.transmissions(7), 32);
         CHECK.due("p25 the 62nd is the last that bridge 7 hears", y.entry(7, 0), 17);
         CHECK.due("p25 the 64th is the last that bridge 6 hears", y.entry(6, 0), 12);
+        CHECK.due("p23 a short frame after a long one", y.send(0, 0), 1);
+        CHECK.due("p25 nothing is left of the long one", y.entry(7, 0), 16);
     }
 
     private static void promise24Transmissions() {

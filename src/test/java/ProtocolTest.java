@@ -9,6 +9,8 @@ public final class ProtocolTest {
         promise11TakesWorseNewsFromTheSameSource();
         promise11KeepsABetterStoredMessage();
         promise11LifetimeRunsOut();
+        promise11BestOfTheOthers();
+        promise11TooOldToBeSent();
         promise12Settle();
         promise13Identifier();
         promise14To16Root();
@@ -113,6 +115,67 @@ public final class ProtocolTest {
         CHECK.due("p11 lost", x.stored(2, 4), SpanningTreeProtocol.NONE);
         CHECK.due("p11 own root", x.root(1), 17);
         CHECK.due("p11 designated", x.role(2), SpanningTreeProtocol.DESIGNATED);
+    }
+
+    /** The best sender hears the next best one, in whatever order the three were added. */
+    private static void promise11BestOfTheOthers() {
+        int[][] orders = {{0, 1, 2}, {0, 2, 1}, {1, 0, 2}, {1, 2, 0}, {2, 0, 1}, {2, 1, 0}};
+        for (int[] order : orders) {
+            SpanningTreeProtocol x = new SpanningTreeProtocol();
+            x.addSegment();
+            int best = 0;
+            int next = 0;
+            for (int bridge = 0; bridge < 3; bridge++) {
+                x.addBridge(order[bridge]);
+                x.addPort(bridge, 0, 1);
+                best = order[bridge] == 0 ? bridge : best;
+                next = order[bridge] == 1 ? bridge : next;
+            }
+            x.tick(1);
+            for (int bridge = 0; bridge < 3; bridge++) {
+                int heard = bridge == best ? next : best;
+                CHECK.due("p11 whom bridge " + bridge + " hears", x.stored(bridge, 3), heard);
+                CHECK.due("p11 its identifier", x.stored(bridge, 2), x.identifier(heard));
+            }
+        }
+    }
+
+    /**
+     * Bridge 6 loses its near way to the root (port 12) and keeps a far one (port 11), whose
+     * message has one tick to live: it knows the root, but is not allowed to tell bridge 7,
+     * which goes on with the message that it has.
+     */
+    private static void promise11TooOldToBeSent() {
+        SpanningTreeProtocol x = new SpanningTreeProtocol();
+        for (int bridge = 0; bridge < 8; bridge++) {
+            x.addBridge(bridge);
+            x.addSegment();
+        }
+        for (int segment = 0; segment < 6; segment++) {
+            x.addPort(segment, segment, 1);
+            x.addPort(segment + 1, segment, segment == 5 ? 100 : 1);
+        }
+        x.addPort(6, 6, 50);
+        x.addPort(0, 6, 1);
+        x.addPort(6, 7, 1);
+        x.addPort(7, 7, 1);
+        x.tick(20);
+        CHECK.due("p11 the near way", x.rootPort(6), 12);
+        CHECK.due("p11 the far way is there", x.role(11), SpanningTreeProtocol.ALTERNATE);
+        CHECK.due("p11 with one tick to live", x.stored(11, 4), 1);
+        CHECK.due("p11 bridge 7 hears of the near way", x.stored(15, 4), 5);
+        x.setPort(12, false);
+        CHECK.due("p11 the far way", x.rootPort(6), 11);
+        CHECK.due("p11 its cost", x.rootCost(6), 105);
+        x.tick(1);
+        CHECK.due("p11 the old message ages", x.stored(15, 4), 4);
+        CHECK.due("p11 and is the old one", x.stored(15, 1), 50);
+        x.tick(3);
+        CHECK.due("p11 to the end", x.stored(15, 4), 1);
+        x.tick(1);
+        CHECK.due("p11 and is lost", x.stored(15, 4), SpanningTreeProtocol.NONE);
+        CHECK.due("p11 bridge 6 still knows", x.root(6), 0);
+        CHECK.due("p11 bridge 7 does not", x.root(7), 7 * 17);
     }
 
     private static void promise12Settle() {

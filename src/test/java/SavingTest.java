@@ -8,11 +8,15 @@ public final class SavingTest {
         promise28RestoresAll();
         promise28GoesOnTheSameWay();
         promise28SlotsAreApart();
+        promise28OverAnotherNetwork();
         CHECK.end();
     }
 
     private static SpanningTreeProtocol sample() {
-        SpanningTreeProtocol x = new SpanningTreeProtocol();
+        return sampleInto(new SpanningTreeProtocol());
+    }
+
+    private static SpanningTreeProtocol sampleInto(SpanningTreeProtocol x) {
         x.addBridge(1);
         x.addBridge(2);
         x.addSegment();
@@ -149,5 +153,37 @@ public final class SavingTest {
         x.setPriority(0, 5);
         CHECK.due("p28 changes do not reach the slot", x.restore(0), 3);
         CHECK.due("p28 the saved priority", x.identifier(0), 16);
+    }
+
+    /** Where there was a wholly other network, nothing of it is left. */
+    private static void promise28OverAnotherNetwork() {
+        SpanningTreeProtocol x = new SpanningTreeProtocol();
+        x.save(0);
+        sampleInto(x);
+        x.settle(40);
+        x.send(0, -1);
+        x.send(1, -1);
+        x.save(1);
+        String before = Answers.ofAllQuestions(x);
+        String course = courseOf(x);
+        CHECK.due("p28 the empty network", x.restore(0), 0);
+        CHECK.due("p28 it is empty", x.count(2), 0);
+        x.addBridge(5);
+        x.addBridge(4);
+        x.addBridge(3);
+        x.addSegment();
+        x.addSegment();
+        x.addPort(2, 1, 9);
+        x.addPort(1, 1, 9);
+        x.addPort(0, 1, 9);
+        x.addPort(0, 0, 9);
+        x.addStation(1);
+        x.addStation(0);
+        x.settle(50);
+        x.send(0, -1);
+        x.send(1, -1);
+        CHECK.due("p28 back to the first one", x.restore(1), 2);
+        CHECK.holds("p28 all of it is back", before.equals(Answers.ofAllQuestions(x)));
+        CHECK.holds("p28 and goes the same way", course.equals(courseOf(x)));
     }
 }
