@@ -1,0 +1,75 @@
+/** Networks for the tests, each made in one call. */
+final class Lan {
+    private Lan() {
+    }
+
+    /** Each row of ports is a bridge, a segment and a cost. */
+    static SpanningTreeProtocol of(int[] priorities, int segments, int[][] ports) {
+        SpanningTreeProtocol x = new SpanningTreeProtocol();
+        for (int priority : priorities) {
+            x.addBridge(priority);
+        }
+        for (int segment = 0; segment < segments; segment++) {
+            x.addSegment();
+        }
+        for (int[] port : ports) {
+            x.addPort(port[0], port[1], port[2]);
+        }
+        return x;
+    }
+
+    static int[] priorities(int... priorities) {
+        return priorities;
+    }
+
+    /**
+     * Bridges in a row, bridge 0 the best one: bridge b has port 2b on segment b, towards
+     * bridge b - 1, and port 2b + 1 on segment b + 1, towards bridge b + 1.
+     */
+    static SpanningTreeProtocol row(int bridges, int cost) {
+        SpanningTreeProtocol x = new SpanningTreeProtocol();
+        x.addSegment();
+        for (int bridge = 0; bridge < bridges; bridge++) {
+            x.addBridge(bridge);
+            x.addSegment();
+            x.addPort(bridge, bridge, cost);
+            x.addPort(bridge, bridge + 1, cost);
+        }
+        return x;
+    }
+
+    /** Two bridges (identifiers 0 and 17) with a port each on one segment: ports 0 and 1. */
+    static SpanningTreeProtocol pair() {
+        return of(priorities(0, 1), 1, new int[][] {{0, 0, 7}, {1, 0, 9}});
+    }
+
+    /** One bridge with a port on each of some segments, and a station on each, up to eight. */
+    static SpanningTreeProtocol star(int segments) {
+        SpanningTreeProtocol x = new SpanningTreeProtocol();
+        x.addBridge(1);
+        for (int segment = 0; segment < segments; segment++) {
+            x.addSegment();
+            x.addPort(0, segment, 1);
+            x.addStation(segment);
+        }
+        return x;
+    }
+
+    /** As many of everything as there may be; bridge 7 is the best one, with the identifier 7. */
+    static SpanningTreeProtocol full() {
+        SpanningTreeProtocol x = new SpanningTreeProtocol();
+        for (int bridge = 0; bridge < 8; bridge++) {
+            x.addBridge(bridge == 7 ? 0 : 15 - bridge);
+        }
+        for (int segment = 0; segment < 10; segment++) {
+            x.addSegment();
+        }
+        for (int port = 0; port < 24; port++) {
+            x.addPort(port % 8, (port + port / 8) % 10, 1 + port * 4);
+        }
+        for (int station = 0; station < 8; station++) {
+            x.addStation(station + 2);
+        }
+        return x;
+    }
+}
