@@ -337,7 +337,10 @@ public final class FrameEdgesTest {
         CHECK.due("one loop", y.send(0, -1), 64);
         CHECK.due("one loop: on segment 6", y.transmissions(6), 1 + 2 * 15 + 1);
         CHECK.due("one loop: on segment 7", y.transmissions(7), 2 * 16);
+        CHECK.due("bridge 7 hears the 62nd last", y.entry(7, 0), 17);
         CHECK.due("the next frame begins with none", y.send(0, 0), 1);
+        CHECK.due("and leads nowhere else", y.entry(7, 0), 16);
+        CHECK.due("not for bridge 6 either", y.entry(6, 0), 12);
     }
 
     /** The frame that needs most without a loop: once on each of ten segments. */

@@ -57,7 +57,10 @@ final class Lan {
 
     /** As many of everything as there may be; bridge 7 is the best one, with the identifier 7. */
     static SpanningTreeProtocol full() {
-        SpanningTreeProtocol x = new SpanningTreeProtocol();
+        return fillUp(new SpanningTreeProtocol());
+    }
+
+    static SpanningTreeProtocol fillUp(SpanningTreeProtocol x) {
         for (int bridge = 0; bridge < 8; bridge++) {
             x.addBridge(bridge == 7 ? 0 : 15 - bridge);
         }

@@ -3,12 +3,21 @@ final class Loops {
     private Loops() {
     }
 
+    /** As behindARow(), with the segments numbered from the other end: the loops lie on 0 to 3. */
+    static SpanningTreeProtocol onTheFirstSegments() {
+        return build(9, -1);
+    }
+
     /**
      * Bridges 0 to 6 in a row over segments 0 to 5, with ports 0 to 11. Bridge 6 hears of
      * bridge 0 but may not tell; so it and bridge 7 (ports 12 to 15 and 16 to 19) both
      * forward on segments 6 to 9. There is a station on each of these four.
      */
     static SpanningTreeProtocol behindARow() {
+        return build(0, 1);
+    }
+
+    private static SpanningTreeProtocol build(int firstSegment, int step) {
         SpanningTreeProtocol x = new SpanningTreeProtocol();
         for (int bridge = 0; bridge < 8; bridge++) {
             x.addBridge(bridge);
@@ -17,16 +26,16 @@ final class Loops {
             x.addSegment();
         }
         for (int segment = 0; segment < 6; segment++) {
-            x.addPort(segment, segment, 1);
-            x.addPort(segment + 1, segment, 1);
+            x.addPort(segment, firstSegment + step * segment, 1);
+            x.addPort(segment + 1, firstSegment + step * segment, 1);
         }
         for (int bridge = 6; bridge < 8; bridge++) {
             for (int segment = 6; segment < 10; segment++) {
-                x.addPort(bridge, segment, 1);
+                x.addPort(bridge, firstSegment + step * segment, 1);
             }
         }
         for (int segment = 6; segment < 10; segment++) {
-            x.addStation(segment);
+            x.addStation(firstSegment + step * segment);
         }
         return x;
     }

@@ -32,6 +32,7 @@ public final class PromiseEdgesTest {
         p25NoEntry();
         p26WhatFrom0To4();
         p27OverwritesAndIsComplete();
+        p27TransmissionsOfTheLastFrame();
         p28KeepsWhatWasSaved();
         p28SlotsDoNotMeet();
         CHECK.end();
@@ -345,6 +346,20 @@ public final class PromiseEdgesTest {
         z.addPort(0, 3, 1);
         z.settle(40);
         CHECK.due("21: the pairs joined", z.parts(), 3);
+        p21PartsWithLoops();
+    }
+
+    /** 21: "every FORWARDING port joins": also one that joins what is joined already. */
+    private static void p21PartsWithLoops() {
+        SpanningTreeProtocol[] loops = {Loops.behindARow(), Loops.onTheFirstSegments()};
+        for (SpanningTreeProtocol x : loops) {
+            x.settle(100);
+            CHECK.due("21: one part with three loops", x.parts(), 1);
+            CHECK.due("22: three loops", x.loops(), 3);
+            x.setPort(11, false);
+            CHECK.due("21: the row and the loops apart", x.parts(), 2);
+            CHECK.due("22: three loops still", x.loops(), 3);
+        }
     }
 
     /** 22: "the number of FORWARDING ports, minus the number of vertices .., plus the number of parts" */
@@ -447,8 +462,8 @@ public final class PromiseEdgesTest {
 
     /** 27: "Saves the complete network, including time and transmissions .., and overwrites what was saved there" */
     private static void p27OverwritesAndIsComplete() {
-        SpanningTreeProtocol x = Lan.full();
-        SpanningTreeProtocol twin = Lan.full();
+        SpanningTreeProtocol x = Lan.fillUp(savedWhenEmpty());
+        SpanningTreeProtocol twin = Lan.fillUp(savedWhenEmpty());
         for (SpanningTreeProtocol one : new SpanningTreeProtocol[] {x, twin}) {
             one.settle(200);
             one.setPort(3, false);
@@ -463,6 +478,9 @@ public final class PromiseEdgesTest {
         }
         CHECK.due("27: save", x.save(0), 8);
         CHECK.due("27: save of the twin", twin.save(0), 8);
+        x.restore(1);
+        makeAnotherFullNetwork(x);
+        CHECK.due("28: restore over another network", x.restore(0), 8);
         x.setBridge(5, true);
         x.setPort(0, false);
         x.setCost(9, 1);
@@ -482,6 +500,51 @@ public final class PromiseEdgesTest {
         CHECK.due("28: the last one saved", y.restore(1), 2);
         CHECK.due("28: its time", y.count(4), 1);
         CHECK.due("28: its third bridge", y.identifier(2), -1);
+    }
+
+    private static SpanningTreeProtocol savedWhenEmpty() {
+        SpanningTreeProtocol x = new SpanningTreeProtocol();
+        x.save(1);
+        return x;
+    }
+
+    /** With every number another than in Lan.full(). */
+    private static void makeAnotherFullNetwork(SpanningTreeProtocol x) {
+        for (int bridge = 0; bridge < 8; bridge++) {
+            x.addBridge(bridge);
+        }
+        for (int segment = 0; segment < 10; segment++) {
+            x.addSegment();
+        }
+        for (int port = 0; port < 24; port++) {
+            x.addPort(7 - port % 8, (port + port / 8 + 5) % 10, 100 - port);
+        }
+        for (int station = 0; station < 8; station++) {
+            x.addStation(station);
+        }
+        x.settle(200);
+        for (int station = 0; station < 8; station++) {
+            x.send(station, -1);
+        }
+    }
+
+    /** 27: "including .. transmissions of the last frame" */
+    private static void p27TransmissionsOfTheLastFrame() {
+        SpanningTreeProtocol x = Lan.star(3);
+        x.tick(5);
+        x.save(0);
+        x.send(0, -1);
+        x.save(1);
+        x.send(1, 0);
+        CHECK.due("27: the last frame, on 2", x.transmissions(2), 0);
+        x.restore(1);
+        for (int segment = 0; segment < 3; segment++) {
+            CHECK.due("27: the saved frame, on " + segment, x.transmissions(segment), 1);
+        }
+        x.restore(0);
+        for (int segment = 0; segment < 3; segment++) {
+            CHECK.due("27: saved when no frame was sent, on " + segment, x.transmissions(segment), 0);
+        }
     }
 
     /** 28: "Restores what was saved last in a slot, which keeps it" */

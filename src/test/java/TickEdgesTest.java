@@ -24,6 +24,7 @@ public final class TickEdgesTest {
         statesOfAPortThatIsSwitched();
         statesChangeInTicksOnly();
         agesAt5And6();
+        anAgeOf6TakesNothingAway();
         agesGrowWithTheStoredMessage();
         rolesAndMessagesBeforeTheTick();
         anotherPort();
@@ -32,6 +33,7 @@ public final class TickEdgesTest {
         aWorseMessageOfTheSameBridgeAndAnotherPort();
         aWorseMessageOfTheSamePortAndAnotherBridge();
         theBestMessageAlone();
+        theBestMessageOfTheOthers();
         aNewMessageDoesNotAgeInItsTick();
         theLastTickOfAMessage();
         rolesOfStep4AreTheNewOnes();
@@ -238,6 +240,21 @@ public final class TickEdgesTest {
         y.tick(1);
         y.setPriority(0, 2);
         CHECK.due("after setPriority", y.role(0), ROOT);
+        rootsFollowAtOnce();
+    }
+
+    /** Each question is the first one after its change. */
+    private static void rootsFollowAtOnce() {
+        SpanningTreeProtocol x = twoEqualWays();
+        x.setCost(5, 2);
+        CHECK.due("root port after setCost", x.rootPort(3), 4);
+        x.setCost(4, 7);
+        CHECK.due("root cost after setCost", x.rootCost(3), 6);
+        x.setCost(5, 9);
+        CHECK.due("root cost after setCost again", x.rootCost(3), 11);
+        x.setBridge(3, false);
+        x.setBridge(3, true);
+        CHECK.due("root after setBridge", x.root(3), 16 * 9 + 3);
     }
 
     /** "A port that is not active has the state OFF. A port that becomes active has the state BLOCKING." */
@@ -305,6 +322,29 @@ public final class TickEdgesTest {
         CHECK.due("and would send", x.role(13), DESIGNATED);
         CHECK.due("but the age would be 6", x.stored(14, 0), NONE);
         CHECK.due("bridge 7 does not know it", x.root(7), 16 * 7 + 7);
+    }
+
+    /**
+     * ".. is not sent": bridge 6 loses its near way to the root (port 12) and keeps the far one
+     * (port 11), whose message has one tick left. What bridge 7 has of the near way lives on.
+     */
+    private static void anAgeOf6TakesNothingAway() {
+        SpanningTreeProtocol x = Lan.of(Lan.priorities(0, 1, 2, 3, 4, 5, 6, 7), 8, new int[][] {
+            {0, 0, 1}, {1, 0, 1}, {1, 1, 1}, {2, 1, 1}, {2, 2, 1}, {3, 2, 1}, {3, 3, 1}, {4, 3, 1}, {4, 4, 1},
+            {5, 4, 1}, {5, 5, 1}, {6, 5, 100}, {6, 6, 50}, {0, 6, 1}, {6, 7, 1}, {7, 7, 1}});
+        x.tick(20);
+        CHECK.due("the near way", x.rootPort(6), 12);
+        CHECK.due("1 is left of the far way", x.stored(11, 4), 1);
+        CHECK.due("5 are left at bridge 7", x.stored(15, 4), 5);
+        x.setPort(12, false);
+        CHECK.due("the far way is the root's", x.rootPort(6), 11);
+        CHECK.due("bridge 6 would send", x.role(14), DESIGNATED);
+        int[] due = {4, 3, 2, 1, NONE};
+        for (int left : due) {
+            x.tick(1);
+            CHECK.due("left at bridge 7", x.stored(15, 4), left);
+            CHECK.due("of the near way", x.stored(15, 1), left == NONE ? NONE : 50);
+        }
     }
 
     /** "the age is 7 minus the remaining lifetime of the message that is stored at the root port" */
@@ -445,6 +485,31 @@ public final class TickEdgesTest {
         CHECK.due("where it is lost", x.stored(6, 4), NONE);
         x.tick(1);
         CHECK.due("then bridge 2's is stored", x.stored(6, 1), 20);
+    }
+
+    /** "the best message that another port sent": the best sender hears the next best, in any order of ports. */
+    private static void theBestMessageOfTheOthers() {
+        int[][] orders = {{1, 2, 3}, {1, 3, 2}, {2, 1, 3}, {2, 3, 1}, {3, 1, 2}, {3, 2, 1}};
+        for (int[] order : orders) {
+            SpanningTreeProtocol x = Lan.of(order, 1, new int[][] {{0, 0, 1}, {1, 0, 1}, {2, 0, 1}});
+            x.tick(1);
+            for (int port = 0; port < 3; port++) {
+                int heard = portOf(order, order[port] == 1 ? 2 : 1);
+                CHECK.due("the bridge that " + order[port] + " hears", x.stored(port, 2), x.identifier(heard));
+                CHECK.due("and its port", x.stored(port, 3), heard);
+            }
+        }
+        SpanningTreeProtocol pair = Lan.of(Lan.priorities(1, 0), 1, new int[][] {{0, 0, 1}, {1, 0, 1}});
+        pair.tick(1);
+        CHECK.due("the better one of two comes last and hears the first", pair.stored(1, 3), 0);
+    }
+
+    private static int portOf(int[] order, int priority) {
+        int port = 0;
+        while (order[port] != priority) {
+            port++;
+        }
+        return port;
     }
 
     /** "For each port that stores a message and has not stored one in step 2" */
