@@ -3,9 +3,9 @@ final class Loops {
     private Loops() {
     }
 
-    /** As behindARow(), with the segments numbered from the other end: the loops lie on 0 to 3. */
+    /** As behindARow(), but the row is on segments 4 to 9 and the loops are on 0 to 3. */
     static SpanningTreeProtocol onTheFirstSegments() {
-        return build(9, -1);
+        return build(4);
     }
 
     /**
@@ -14,10 +14,10 @@ final class Loops {
      * forward on segments 6 to 9. There is a station on each of these four.
      */
     static SpanningTreeProtocol behindARow() {
-        return build(0, 1);
+        return build(0);
     }
 
-    private static SpanningTreeProtocol build(int firstSegment, int step) {
+    private static SpanningTreeProtocol build(int shift) {
         SpanningTreeProtocol x = new SpanningTreeProtocol();
         for (int bridge = 0; bridge < 8; bridge++) {
             x.addBridge(bridge);
@@ -26,16 +26,16 @@ final class Loops {
             x.addSegment();
         }
         for (int segment = 0; segment < 6; segment++) {
-            x.addPort(segment, firstSegment + step * segment, 1);
-            x.addPort(segment + 1, firstSegment + step * segment, 1);
+            x.addPort(segment, (segment + shift) % 10, 1);
+            x.addPort(segment + 1, (segment + shift) % 10, 1);
         }
         for (int bridge = 6; bridge < 8; bridge++) {
             for (int segment = 6; segment < 10; segment++) {
-                x.addPort(bridge, firstSegment + step * segment, 1);
+                x.addPort(bridge, (segment + shift) % 10, 1);
             }
         }
         for (int segment = 6; segment < 10; segment++) {
-            x.addStation(firstSegment + step * segment);
+            x.addStation((segment + shift) % 10);
         }
         return x;
     }

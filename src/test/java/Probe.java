@@ -25,6 +25,10 @@ final class Probe {
         for (int tick = 0; tick < COURSE; tick++) {
             told.append(x.tick(1)).append(Answers.ofAllQuestions(x));
         }
+        // What is on which segment is told by frames.
+        for (int station = 0; station < x.count(3); station++) {
+            told.append(x.send(station, -1)).append(Answers.ofAllQuestions(x));
+        }
     }
 
     /** Costs, switches and places are told only by the calls that change them; each is set back. */

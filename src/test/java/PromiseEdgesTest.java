@@ -478,9 +478,11 @@ public final class PromiseEdgesTest {
         }
         CHECK.due("27: save", x.save(0), 8);
         CHECK.due("27: save of the twin", twin.save(0), 8);
+        String saved = Answers.ofAllQuestions(x);
         x.restore(1);
         makeAnotherFullNetwork(x);
         CHECK.due("28: restore over another network", x.restore(0), 8);
+        CHECK.holds("28: nothing of the other network is left", saved.equals(Answers.ofAllQuestions(x)));
         x.setBridge(5, true);
         x.setPort(0, false);
         x.setCost(9, 1);
