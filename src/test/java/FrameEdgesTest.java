@@ -13,8 +13,10 @@ public final class FrameEdgesTest {
         entriesOfAPortThatBecomesInactive();
         entriesOfABridgeThatGoesDown();
         entriesOfAPortThatIsBlocked();
+        entriesOfAPortWhoseRoleChanges();
         onTheSegmentOfTheSenderFirst();
         exceptTheOneThatTransmittedIt();
+        otherPortsOfTheBridgeThatTransmittedIt();
         activePortsAlone();
         learningAndForwardingPortsLearn();
         forwardingPortsAloneTransmit();
@@ -22,6 +24,7 @@ public final class FrameEdgesTest {
         anEntryWhosePortDoesNotForward();
         notAtAllByTheSamePort();
         forAllByAllOtherPorts();
+        alsoOntoTheSegmentItCameFrom();
         inTheOrderInWhichTheyAreMade();
         atMost64();
         aTreeNeedsFewer();
@@ -144,6 +147,25 @@ public final class FrameEdgesTest {
         CHECK.due("and no longer", x.entry(0, 1), NONE);
     }
 
+    /** ".. when this port becomes inactive": a port that only changes its role keeps its entries. */
+    private static void entriesOfAPortWhoseRoleChanges() {
+        SpanningTreeProtocol x = Lan.twoRoots(6);
+        x.addStation(5);
+        x.addStation(6);
+        x.tick(5);
+        x.send(0, -1);
+        x.send(1, -1);
+        CHECK.due("port 12 is the root port", x.rootPort(6), 12);
+        x.tick(1);
+        CHECK.due("port 11 is the root port", x.rootPort(6), 11);
+        CHECK.due("the entry with the new root port", x.entry(6, 0), 11);
+        CHECK.due("the entry with the former root port", x.entry(6, 1), 12);
+        x.tick(8);
+        CHECK.due("for its lifetime", x.entry(6, 1), 12);
+        x.tick(1);
+        CHECK.due("and no longer", x.entry(6, 1), NONE);
+    }
+
     /** "It is transmitted on the segment of the sender first." */
     private static void onTheSegmentOfTheSenderFirst() {
         SpanningTreeProtocol x = Lan.of(Lan.priorities(), 2, new int[0][]);
@@ -172,6 +194,37 @@ public final class FrameEdgesTest {
         for (int bridge = 0; bridge < 3; bridge++) {
             CHECK.due("learned by bridge " + bridge, y.entry(bridge, 0), 2 * bridge);
         }
+    }
+
+    /**
+     * Bridges 0 to 6 in a row. Bridge 6 hears of bridge 0 at port 12 but may not tell; so its
+     * ports 13 and 14, both on segment 7, do not hear one another, and both forward. Stations 0
+     * and 1 are on segment 7 too.
+     */
+    private static SpanningTreeProtocol twoForwardingPortsOnOneSegment() {
+        SpanningTreeProtocol x = Lan.row(6, 1);
+        x.addBridge(6);
+        x.addPort(6, 6, 1);
+        x.addSegment();
+        x.addPort(6, 7, 1);
+        x.addPort(6, 7, 1);
+        x.addStation(7);
+        x.addStation(7);
+        x.settle(100);
+        return x;
+    }
+
+    /** ".. except the one that transmitted it": another port of the same bridge is visited. */
+    private static void otherPortsOfTheBridgeThatTransmittedIt() {
+        SpanningTreeProtocol x = twoForwardingPortsOnOneSegment();
+        CHECK.due("port 13 forwards", x.state(13), FORWARDING);
+        CHECK.due("port 14 forwards", x.state(14), FORWARDING);
+        CHECK.due("to the sender itself", x.send(1, 1), 1);
+        CHECK.due("port 14 was visited last", x.entry(6, 1), 14);
+        // Port 13 hands each transmission to port 14, whose next one it hears again.
+        CHECK.due("round and round", x.send(0, 1), 64);
+        CHECK.due("all on segment 7", x.transmissions(7), 64);
+        CHECK.due("port 13 heard the last one", x.entry(6, 0), 13);
     }
 
     /** "all active ports": one that is down neither learns nor transmits. */
@@ -290,6 +343,19 @@ public final class FrameEdgesTest {
         x.setPort(2, false);
         CHECK.due("without port 2", x.send(0, -1), 3);
         transmissions("without port 2", x, 1, 1, 0, 1);
+    }
+
+    /** ".. by all other ports of the bridge that have the state FORWARDING": on whatever segment they are. */
+    private static void alsoOntoTheSegmentItCameFrom() {
+        SpanningTreeProtocol x = twoForwardingPortsOnOneSegment();
+        x.setPort(12, false);
+        // Of its three ports bridge 6 has 13 and 14 left, each of which passes on to the other.
+        CHECK.due("out of one and into the other", x.send(0, -1), 64);
+        CHECK.due("all on segment 7", x.transmissions(7), 64);
+        CHECK.due("the 64th is by port 14", x.entry(6, 0), 13);
+        x.tick(1);
+        CHECK.due("as its own root it tells, and port 14 is blocked", x.state(14), BLOCKING);
+        CHECK.due("no other port forwards", x.send(0, -1), 1);
     }
 
     /**

@@ -38,6 +38,24 @@ final class Lan {
         return x;
     }
 
+    /**
+     * Bridges in a row as ports 2s and 2s + 1 on segment s, between bridges s and s + 1. Bridge 0
+     * is the best one. The last bridge is the next best; its neighbour, the third best, is at the
+     * given distance (up to 6) from bridge 0, so it takes the last one for the root until then.
+     */
+    static SpanningTreeProtocol twoRoots(int distance) {
+        SpanningTreeProtocol x = new SpanningTreeProtocol();
+        for (int bridge = 0; bridge <= distance + 1; bridge++) {
+            x.addBridge(bridge == 0 ? 0 : bridge < distance ? 9 : bridge == distance ? 5 : 1);
+        }
+        for (int segment = 0; segment <= distance; segment++) {
+            x.addSegment();
+            x.addPort(segment, segment, 1);
+            x.addPort(segment + 1, segment, 1);
+        }
+        return x;
+    }
+
     /** Two bridges (identifiers 0 and 17) with a port each on one segment: ports 0 and 1. */
     static SpanningTreeProtocol pair() {
         return of(priorities(0, 1), 1, new int[][] {{0, 0, 7}, {1, 0, 9}});

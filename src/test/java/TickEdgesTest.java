@@ -22,6 +22,7 @@ public final class TickEdgesTest {
         backupByIdentifier();
         rolesFollowAtOnce();
         statesOfAPortThatIsSwitched();
+        aPortAddedToABridgeThatIsDown();
         statesChangeInTicksOnly();
         agesAt5And6();
         anAgeOf6TakesNothingAway();
@@ -32,6 +33,7 @@ public final class TickEdgesTest {
         aWorseMessageOfTheSameSource();
         aWorseMessageOfTheSameBridgeAndAnotherPort();
         aWorseMessageOfTheSamePortAndAnotherBridge();
+        theSourceIsWhatTheMessageSays();
         theBestMessageAlone();
         theBestMessageOfTheOthers();
         aNewMessageDoesNotAgeInItsTick();
@@ -40,6 +42,8 @@ public final class TickEdgesTest {
         countersOf2();
         aCounterStartsAnew();
         forwardingStays();
+        aRoleThatChangesInATick();
+        aPortThatTakesOverInATick();
         theLastTickOfAnEntry();
         CHECK.end();
     }
@@ -294,6 +298,31 @@ public final class TickEdgesTest {
         CHECK.due("it becomes active with the bridge", y.state(0), BLOCKING);
     }
 
+    /** 4: "Adds a port that is up"; "A port is active if it and its bridge are up.": so it is up, but not active. */
+    private static void aPortAddedToABridgeThatIsDown() {
+        SpanningTreeProtocol x = Lan.of(Lan.priorities(3, 0), 2, new int[][] {{0, 0, 1}});
+        x.setBridge(1, false);
+        x.addPort(1, 0, 1);
+        x.addPort(1, 1, 1);
+        CHECK.due("off", x.portsIn(OFF), 6);
+        CHECK.due("disabled", x.role(1), DISABLED);
+        x.tick(2);
+        CHECK.due("off after ticks", x.portsIn(OFF), 6);
+        CHECK.due("it hears nothing", x.stored(1, 0), NONE);
+        CHECK.due("it is not heard", x.stored(0, 0), NONE);
+        CHECK.due("it was up: port 1", x.setPort(1, false), 1);
+        CHECK.due("and is up again", x.setPort(1, true), 0);
+        CHECK.due("up, but its bridge is not", x.state(1), OFF);
+        CHECK.due("it was up: port 2", x.setPort(2, false), 1);
+        x.setBridge(1, true);
+        CHECK.due("active with its bridge", x.state(1), BLOCKING);
+        CHECK.due("and designated", x.role(1), DESIGNATED);
+        CHECK.due("the one that is down stays off", x.state(2), OFF);
+        x.tick(1);
+        CHECK.due("it is heard", x.stored(0, 2), 1);
+        CHECK.due("it hears", x.stored(1, 2), 48);
+    }
+
     /** "All other changes of states happen in ticks." */
     private static void statesChangeInTicksOnly() {
         SpanningTreeProtocol x = twoEqualWays();
@@ -458,6 +487,24 @@ public final class TickEdgesTest {
         CHECK.due("it is taken where nothing is stored", x.stored(1, 2), 48);
     }
 
+    /** "the identifier of the sending bridge": as it was when the message was sent; "Stored messages do not change." */
+    private static void theSourceIsWhatTheMessageSays() {
+        SpanningTreeProtocol x = Lan.of(Lan.priorities(1, 9), 1, new int[][] {{0, 0, 1}, {1, 0, 1}});
+        x.tick(4);
+        x.setPriority(0, 3);
+        x.tick(2);
+        CHECK.due("a worse message of another identifier is not taken", x.stored(1, 2), 16);
+        CHECK.due("what is stored grows old", x.stored(1, 4), 4);
+        x.setPriority(0, 1);
+        x.tick(1);
+        CHECK.due("with the identifier back it is taken", x.stored(1, 2), 16);
+        CHECK.due("with all of its lifetime", x.stored(1, 4), 6);
+        x.setPriority(0, 0);
+        x.tick(1);
+        CHECK.due("a better message of another identifier is taken", x.stored(1, 2), 0);
+        CHECK.due("with all of its lifetime too", x.stored(1, 4), 6);
+    }
+
     /**
      * "looks at the best message": port 6 has stored bridge 1's message. Bridge 1's next one is
      * worse, and bridge 2's is between the two; being the best one sent, it alone is looked at,
@@ -611,6 +658,53 @@ public final class TickEdgesTest {
             x.tick(1);
             CHECK.due("root", x.role(0), ROOT);
             CHECK.due("its counter goes on after " + ticks, x.state(0), due[ticks]);
+        }
+    }
+
+    /**
+     * "For each ROOT or DESIGNATED port": both roles count in the same way. In Lan.twoRoots() the
+     * bridge between the roots hears of the better one in the tick of its distance, in which its
+     * two ports exchange their roles, whatever their states are.
+     */
+    private static void aRoleThatChangesInATick() {
+        int[] states = {LISTENING, LISTENING, LEARNING, LEARNING, FORWARDING, FORWARDING, FORWARDING};
+        for (int distance = 2; distance <= 6; distance++) {
+            SpanningTreeProtocol x = Lan.twoRoots(distance);
+            int far = 2 * distance - 1;
+            int near = far + 1;
+            for (int tick = 1; tick <= states.length; tick++) {
+                x.tick(1);
+                String when = "root at " + distance + ", tick " + tick;
+                boolean heard = tick >= distance;
+                CHECK.due(when + ": role towards the better root", x.role(far), heard ? ROOT : DESIGNATED);
+                CHECK.due(when + ": role towards the near root", x.role(near), heard ? DESIGNATED : ROOT);
+                CHECK.due(when + ": state towards the better root", x.state(far), states[tick - 1]);
+                CHECK.due(when + ": state towards the near root", x.state(near), states[tick - 1]);
+            }
+        }
+    }
+
+    /** "BLOCKING becomes LISTENING": also where a tick makes an ALTERNATE the ROOT, or a BACKUP DESIGNATED. */
+    private static void aPortThatTakesOverInATick() {
+        SpanningTreeProtocol x = Lan.of(Lan.priorities(1, 2), 2,
+                new int[][] {{0, 0, 1}, {0, 1, 1}, {1, 0, 1}, {1, 1, 1}});
+        SpanningTreeProtocol y = Lan.of(Lan.priorities(1), 1, new int[][] {{0, 0, 1}, {0, 0, 1}});
+        x.settle(40);
+        y.settle(40);
+        x.setPort(0, false);
+        y.setPort(0, false);
+        int[] states = {BLOCKING, BLOCKING, BLOCKING, BLOCKING, BLOCKING,
+            LISTENING, LISTENING, LEARNING, LEARNING, FORWARDING};
+        for (int tick = 1; tick <= states.length; tick++) {
+            x.tick(1);
+            y.tick(1);
+            boolean lost = tick >= 6;
+            CHECK.due("the alternate in tick " + tick, x.role(3), lost ? ROOT : ALTERNATE);
+            CHECK.due("its state in tick " + tick, x.state(3), states[tick - 1]);
+            CHECK.due("the former root port in tick " + tick, x.role(2), lost ? DESIGNATED : ROOT);
+            CHECK.due("it forwards all the time", x.state(2), FORWARDING);
+            CHECK.due("the backup in tick " + tick, y.role(1), lost ? DESIGNATED : BACKUP);
+            CHECK.due("the backup's state in tick " + tick, y.state(1), states[tick - 1]);
         }
     }
 
