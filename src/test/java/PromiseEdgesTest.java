@@ -5,8 +5,8 @@
 public final class PromiseEdgesTest {
     private static final Check CHECK = new Check();
     private static final int FULL = -6, NOT_SETTLED = -7, NOT_SAVED = -8, NONE = -9;
-    private static final int ROOT = 1, DESIGNATED = 2;
-    private static final int LISTENING = 2, FORWARDING = 4;
+    private static final int ROOT = 1, DESIGNATED = 2, ALTERNATE = 3;
+    private static final int BLOCKING = 1, LISTENING = 2, LEARNING = 3, FORWARDING = 4;
 
     public static void main(String[] args) {
         p1AnEmptyNetwork();
@@ -21,6 +21,7 @@ public final class PromiseEdgesTest {
         p12AtMostTheLimit();
         p12ARoleAlone();
         p12AStateAlone();
+        p12BackToBlockingAlone();
         p12ChangesBetweenTicks();
         p12NewMessagesWithTheSameRoles();
         p19WhatFrom0To4();
@@ -240,6 +241,33 @@ public final class PromiseEdgesTest {
         x.addSegment();
         x.addPort(0, 1, 1);
         CHECK.due("12: of any port", x.settle(200), 13);
+    }
+
+    /**
+     * 12: ".. and no state of any port": from LISTENING or LEARNING back to BLOCKING too, where no
+     * other change follows. Bridge 6 hears of the root at port 12, too late to tell anybody; bridge 7
+     * is near the root (port 13), but at a high cost, and tells it on segment 7 (port 14).
+     */
+    private static void p12BackToBlockingAlone() {
+        int[] states = {LISTENING, LISTENING, LEARNING, LEARNING, FORWARDING};
+        for (int ticks = 1; ticks <= states.length; ticks++) {
+            SpanningTreeProtocol x = Lan.row(6, 1);
+            x.addSegment();
+            x.addBridge(6);
+            x.addBridge(7);
+            x.addPort(6, 6, 1);
+            x.addPort(7, 1, 100);
+            x.addPort(7, 7, 1);
+            x.settle(100);
+            x.addPort(6, 7, 100);
+            x.tick(ticks);
+            CHECK.due("12: its state", x.state(15), states[ticks - 1]);
+            CHECK.due("12: at the cost 6 to the root it is designated", x.role(15), DESIGNATED);
+            x.setCost(12, 100);
+            CHECK.due("12: at the cost 105 it is an alternate at once", x.role(15), ALTERNATE);
+            CHECK.due("12: the first tick blocks it, and no other changes anything", x.settle(100), 1 + 8);
+            CHECK.due("12: it is blocked", x.state(15), BLOCKING);
+        }
     }
 
     /** 12: ".. after the tick is not its role before the tick": what a call changes is no change of a tick. */
